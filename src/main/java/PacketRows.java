@@ -640,8 +640,6 @@ public final class PacketRows {
         void start() {
             fault = 0;
             reach = 0;
-            current = 0;
-            left = 0;
         }
 
         void beginHead(int packet) {

@@ -4,6 +4,7 @@ public final class PictureTest {
         newObject();
         newObjectIsBounded();
         component();
+        componentIsNew();
         componentGoesOverTheLimit();
         grid();
         gridLimit();
@@ -72,6 +73,27 @@ public final class PictureTest {
         Check.due("packets()", x.packets(), 12);
     }
 
+    /** Nothing of blocks that there were once comes back with a component. */
+    private static void componentIsNew() {
+        PacketRows x = new PacketRows(2, 0);
+        x.grid(0, 0, 4, 4, 3);
+        for (int block = 0; block < 12; block++) {
+            x.choose(0, 0, 0, 0, block);
+            x.zero(3);
+            x.passes(0, 2, 3);
+            x.passes(1, 4, 5);
+        }
+        x.write();
+        x.read();
+        x.grid(0, 0, 1, 1, 1);
+        x.component();
+        Check.due("choose", x.choose(1, 0, 0, 0, 0), 1);
+        Check.got("nothing is read of it", x, 1, 0, 0, 0, -1);
+        Check.heads("nothing is told of it", x, "0", "0", "0", "0");
+        x.passes(0, 1, 0);
+        Check.heads("nor zero planes", x, "0", "1 1 1 0 0 000", "0", "0");
+    }
+
     private static void componentGoesOverTheLimit() {
         PacketRows x = fullPicture();
         Check.due("400: component()", x.component(), 1);
@@ -126,6 +148,14 @@ public final class PictureTest {
         Check.got("nothing changes: chosen and read", x, 0, 3, 9, 0, 0);
         Check.due("grid to 400", x.grid(0, 3, 4, 3, 3), 1);
         Check.due("still 400", x.told(1), 400);
+        PacketRows y = new PacketRows(1, 3);
+        y.grid(0, 0, 4, 4, 2);
+        y.grid(0, 1, 4, 4, 3);
+        y.grid(0, 2, 4, 4, 3);
+        y.grid(0, 3, 3, 4, 2);
+        Check.due("392", y.told(1), 392);
+        Check.due("grid to 401", y.grid(0, 3, 3, 3, 3), -1);
+        Check.due("still 392", y.told(1), 392);
     }
 
     private static void gridRefuses() {

@@ -126,16 +126,14 @@ public final class ReadTest {
         Check.got("30 down the tree", y, 0, 1, 0, 30, 0);
         Check.bytes(y, Check.head(to30 + "0"));
         Check.reads("31 down the tree", y, -1, 3, 0);
-        // Just at the end of the bytes: 31 zeros fill them, so that the next bit is not there.
-        PacketRows z = new PacketRows(1, 0);
-        z.grid(0, 0, 1, 2, 1);
-        Check.bytes(z, Check.head("1 1 1 " + "0".repeat(29)));
-        Check.due("four bytes", z.told(0), 4);
-        Check.reads("29 zeros, then the end", z, -1, 1, 0);
-        PacketRows w = new PacketRows(1, 0);
-        w.grid(0, 0, 1, 3, 3);
-        Check.bytes(w, Check.head("1 1 1 1 1 " + "0".repeat(3) + "0".repeat(28)));
-        Check.reads("31 at the top, at the end of the bytes", w, -1, 3, 0);
+        // 1, FIRST is 7, and 31 zeros fill five bytes: no bit behind them is there to be asked for.
+        PacketRows z = new PacketRows(8, 0);
+        Check.bytes(z, 0, 0, 0, 0, 0, 0, 0, 0b10000000, 0b10000000, 0, 0, 0);
+        Check.reads("as soon as it is so", z, -8, 3, 0);
+        z.wipe();
+        z.feed(8, 0x8000000000000000L);
+        z.feed(3, 0x000080);
+        Check.reads("a byte before", z, -8, 1, 0);
     }
 
     private static void lengthTooGreat() {

@@ -15,6 +15,7 @@ public final class WriteTest {
         treesStayBetweenLayers();
         writeReplaces();
         tooManyBytes();
+        justEnoughBytes();
         Check.end();
     }
 
@@ -297,6 +298,27 @@ public final class WriteTest {
         }
         Check.due("write() of fewer", x.write() > 0 ? 1 : 0, 1);
         Check.due("begins again", x.packet(0, 4), 0);
+    }
+
+    /** Blocks are filled up, then told with little, until there are 6000 bytes and not one more. */
+    private static void justEnoughBytes() {
+        PacketRows x = new PacketRows(8, 3);
+        x.grid(0, 1, 4, 4, 3);
+        x.grid(0, 2, 4, 4, 3);
+        int size = 0;
+        for (int block = 0; block < 288 && size < 6000 && size != -1; block++) {
+            x.choose(0, 1 + block / 144, block / 36 % 4, block / 12 % 3, block % 12);
+            for (int layer = 0; layer < 8 && size < 6000 && size != -1; layer++) {
+                x.passes(layer, size < 5900 ? 164 : 1, size < 5900 ? 65535 : 0);
+                size = x.write();
+            }
+        }
+        Check.due("write()", size, 6000);
+        Check.due("told(0)", x.told(0), 6000);
+        Check.due("byteAt(5999)", x.byteAt(5999) >= 0 ? 1 : 0, 1);
+        Check.due("read()", x.read(), x.packets());
+        Check.due("told(5)", x.told(5), 6000);
+        Check.due("feed()", x.feed(1, 0), -1);
     }
 
     private static String binary(int value, int width) {
