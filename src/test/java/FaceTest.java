@@ -5,6 +5,7 @@ import java.lang.reflect.Method;
 import java.lang.reflect.Modifier;
 import java.nio.file.Files;
 import java.nio.file.Path;
+import java.util.Arrays;
 import java.util.Set;
 import java.util.TreeSet;
 
@@ -24,6 +25,7 @@ public final class FaceTest {
 
     public static void main(String[] args) throws IOException {
         methods();
+        exceptionsAreNamed();
         membersAreHidden();
         namesAreNotShared();
         source();
@@ -45,6 +47,25 @@ public final class FaceTest {
         Check.due("the face is " + got, got.equals(want) ? 1 : 0, 1);
         int modifiers = PacketRows.class.getModifiers();
         Check.due("public and final", modifiers, Modifier.PUBLIC | Modifier.FINAL);
+    }
+
+    /** The face names its exceptions behind throws, in the document's order. */
+    private static void exceptionsAreNamed() {
+        Set<String> bounds = Set.of("choose", "packet", "got", "told");
+        Set<String> illegal = Set.of("zero", "part", "feed");
+        Set<String> both = Set.of("grid", "passes");
+        for (Method m : PacketRows.class.getDeclaredMethods()) {
+            if (!Modifier.isPublic(m.getModifiers())) {
+                continue;
+            }
+            String name = m.getName();
+            String want = bounds.contains(name) ? "[class java.lang.IndexOutOfBoundsException]"
+                    : illegal.contains(name) ? "[class java.lang.IllegalArgumentException]"
+                    : both.contains(name) ? "[class java.lang.IndexOutOfBoundsException, "
+                    + "class java.lang.IllegalArgumentException]" : "[]";
+            String got = Arrays.toString(m.getExceptionTypes());
+            Check.due(name + " throws " + got, got.equals(want) ? 1 : 0, 1);
+        }
     }
 
     private static void membersAreHidden() {
